@@ -4,6 +4,7 @@ public final class BayTest {
         newObject();
         feedBounds();
         soundTexts();
+        longestText();
         faultsOfPlace();
         faultsOfNumbers();
         faultsOfRepetition();
@@ -62,6 +63,23 @@ public final class BayTest {
         Check.sound("b9 0 0;h0 1 1 ab;h1 1 1 ba;h2 1 1 a;", 3);
     }
 
+    private static void longestText() {
+        String text = "b30 0 5;h0 9 9 a;h1 9 9 b;h2 9 9 c;h3 9 9 d;h4 9 9 e;h5 9 9 aa;h6 9 9 bb;h7 9 9 ccccc;";
+        while (text.length() < 229) {
+            text += " ";
+        }
+        Check.sound(text + " ", 8);
+        Check.fault(text + "m", 1, 230);
+        FireworkDeeds x = Check.bay(text + " ");
+        for (int h = 0; h < 8; h++) {
+            x.light(h);
+        }
+        Check.due("contracts of eight", x.told(8), 28);
+        Check.due("conditional ones of eight", x.told(9), 13);
+        Check.due("contract(6, 7)", x.contract(6, 7), 2);
+        Check.due("contract(5, 6)", x.contract(5, 6), 1);
+    }
+
     private static void faultsOfPlace() {
         Check.fault("h0 1 1 a;", 1, 0);
         Check.fault("m2;", 1, 0);
@@ -86,6 +104,7 @@ public final class BayTest {
         Check.fault("b2 0 0;h0 1 1 a b;", 1, 16);
         Check.fault("b2 0 0;h0 1 1 a", 1, 15);
         Check.fault("b2 0 0;h0 1 1 abcdea;", 1, 19);
+        Check.fault("b2 0 0;h0 1 1 abcdee;", 1, 19);
         Check.fault("b2 0 0;h0 1 1 abcde;h1 1 1 abcdea;", 1, 32);
         Check.fault("b2 0 0;m;", 1, 8);
         Check.fault("b2 0 0;g 1 1;", 1, 11);
