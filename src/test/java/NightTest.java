@@ -93,10 +93,10 @@ public final class NightTest {
         Check.due("no third", two.light(1), 0);
         FireworkDeeds apart = Check.bay("b30 0 5;h0 3 9 a;h6 3 9 b;h13 3 9 d;h7 3 9 e;");
         apart.light(0);
-        Check.due("1 saw house 0's, but that is itself; 3 saw neither", apart.light(1), 0);
-        Check.due("1 sees 3's, 0 does not; 2 does: none saw two", apart.light(3), 1);
-        Check.due("2 saw 1's 7 off? no: 0 is no third for 1 and 3", apart.contract(1, 3), 0);
-        Check.due("1 saw 0's and sees 3's", apart.contract(0, 3), 1);
+        Check.due("only 1 saw 0's, and 1 is no third", apart.light(1), 0);
+        Check.due("1 and 2 see 3's: 1 saw 0's, none of them saw 1's", apart.light(3), 1);
+        Check.due("nobody saw both 1's and 3's", apart.contract(1, 3), 0);
+        Check.due("1 saw both 0's and 3's", apart.contract(0, 3), 1);
     }
 
     private static void contractsBySlurredPowder() {
