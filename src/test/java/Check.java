@@ -20,6 +20,14 @@ final class Check {
         }
     }
 
+    static void same(String what, String got, String want) {
+        checks++;
+        if (!got.equals(want)) {
+            wrong++;
+            System.out.println(what + ":\n  told  " + got + "\n  due   " + want);
+        }
+    }
+
     static void feed(FireworkDeeds deeds, String text) {
         for (int i = 0; i < text.length(); i++) {
             deeds.feed(text.charAt(i));
