@@ -36,6 +36,7 @@ public final class NightEdgesTest {
         windBounds();
         undoOfNone();
         undoOfEachKind();
+        undoOfWhoSawIt();
         undoLeavesTheSeed();
         undoTwentyAtMost();
         undoRoundAndRound();
@@ -479,6 +480,24 @@ public final class NightEdgesTest {
             }
             return x;
         }, Twins::busy);
+    }
+
+    private static void undoOfWhoSawIt() {
+        FireworkDeeds seen = Check.bay("b9 0 5;h2 3 9 a;h3 9 9 b;h4 9 9 d;");
+        seen.light(0);
+        seen.minute(1);
+        seen.fog(20);
+        seen.light(0);
+        seen.undo();
+        seen.undo();
+        Check.due("the first was seen, the second, undone, was not", seen.light(1), 1);
+        FireworkDeeds unseen = Check.bay("b9 20 5;h2 3 9 a;h3 9 9 b;h4 9 9 d;");
+        unseen.light(0);
+        unseen.minute(1);
+        unseen.fog(0);
+        unseen.light(0);
+        unseen.undo();
+        Check.due("the first was not seen, the second, undone, was", unseen.light(1), 0);
     }
 
     private static void undoLeavesTheSeed() {

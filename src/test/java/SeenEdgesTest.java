@@ -31,6 +31,7 @@ public final class SeenEdgesTest {
         goBackToNothingKept();
         keepLeavesAllButUndo();
         imageStays();
+        imageOfWhoSawIt();
         imagesApart();
         imagesGoneByBay();
         imageAfterMuch();
@@ -351,6 +352,21 @@ public final class SeenEdgesTest {
                 return x;
             }, kept);
         }
+    }
+
+    private static void imageOfWhoSawIt() {
+        FireworkDeeds x = Check.bay("b9 0 5;h2 3 9 a;h3 9 9 b;h4 9 9 d;");
+        x.light(0);
+        x.minute(1);
+        x.keep(0);
+        x.fog(20);
+        x.light(0);
+        x.keep(1);
+        x.goBack(0);
+        Check.due("image 0: seen", x.light(1), 1);
+        x.goBack(1);
+        x.fog(0);
+        Check.due("image 1: not seen", x.light(1), 0);
     }
 
     private static void imagesApart() {

@@ -5,6 +5,9 @@ public final class TextEdgesTest {
     private static final String SEVEN =
         "b9 0 5;h0 1 1 a;h1 1 1 b;h2 1 1 c;h3 1 1 d;h4 1 1 e;h5 1 1 aa;h6 1 1 ab;";
 
+    /** No number of it is out of its bounds when it is cut. */
+    private static final String WHOLE = "b22 2 5;h2 5 3 abc;m1;g20;";
+
     public static void main(String[] args) {
         newObjectHasNoCells();
         feedTakesLettersFrom0To255();
@@ -31,6 +34,8 @@ public final class TextEdgesTest {
         cellsTaken();
         starsTaken();
         endAnywhere();
+        endBehindALongerText();
+        endOfTheLongestText();
         firstLetterThatHasAFault();
         leastFaultAtALetter();
         emptyText();
@@ -303,18 +308,42 @@ public final class TextEdgesTest {
         Check.fault("b9 0 5;h4 1 1 ab;h3 1 1 ab;", 4, 24);
         Check.fault("b9 0 5;h4 1 1 abcde;h3 1 1   abcde;", 4, 29);
         Check.fault("b9 0 5;h4 1 1 a;h3 1 1 b;h5 1 1 a", 4, 32);
+        // six letters are no STARS, of whom so ever their first five are
+        Check.fault("b9 0 5;h4 1 1 abcde;h3 1 1 abcdea;", 1, 32);
+        Check.fault("b9 0 5;h4 1 1 abcde;h3 1 1 abcdec;", 1, 32);
+        Check.fault("b9 0 5;h4 1 1 abcde;h3 1 1 abcdee;", 1, 32);
     }
 
     private static void endAnywhere() {
-        // no number of it is out of its bounds when it is cut
-        String whole = "b22 2 5;h2 5 3 abc;m1;g20;";
-        for (int length = 0; length <= whole.length(); length++) {
-            String text = whole.substring(0, length);
+        for (int length = 0; length <= WHOLE.length(); length++) {
+            String text = WHOLE.substring(0, length);
             if (text.isEmpty() || text.endsWith(";")) {
                 Check.sound(text, length > 8 ? 1 : 0);
             } else {
                 Check.fault(text, 1, length);
                 Check.fault(text + "  ", 1, length + 2);
+            }
+        }
+    }
+
+    private static void endBehindALongerText() {
+        FireworkDeeds x = Check.bay(WHOLE);
+        for (int length = WHOLE.length() - 1; length >= 0; length--) {
+            String text = WHOLE.substring(0, length);
+            boolean sound = text.isEmpty() || text.endsWith(";");
+            Check.feed(x, text);
+            Check.due("bay() of " + text + " behind a longer one", x.bay(), !sound ? -11 : length > 8 ? 1 : 0);
+            Check.due("fault() of " + text + " behind a longer one", x.fault(), sound ? Check.NONE : length);
+        }
+    }
+
+    private static void endOfTheLongestText() {
+        for (int length = 0; length <= WHOLE.length(); length++) {
+            String text = " ".repeat(230 - length) + WHOLE.substring(0, length);
+            if (length == 0 || text.endsWith(";")) {
+                Check.sound(text, length > 8 ? 1 : 0);
+            } else {
+                Check.fault(text, 1, 230);
             }
         }
     }

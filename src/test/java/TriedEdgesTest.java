@@ -15,6 +15,7 @@ public final class TriedEdgesTest {
         orderSeenByTwo();
         orderThroughSmokeOfTheRow();
         orderThroughSmokeOfThisNight();
+        orderTriedAnew();
         orderByWindAndFogOfNow();
         orderTheLesserFirst();
         signersOfCheapPowder();
@@ -125,6 +126,17 @@ public final class TriedEdgesTest {
         order("smoke is gone", () -> smoky(3, 4), 2, 1);
         order("hidden at the first place, not at the second", () -> smoky(3, 3), 6, 2, 1);
         order("hidden at the second place, too", () -> smoky(3, 2), 6, -1, -1);
+    }
+
+    private static void orderTriedAnew() {
+        Supplier<FireworkDeeds> smoky = () -> {
+            FireworkDeeds x = Check.bay("b20 0 5;h14 9 9 a;h16 9 9 b;h5 9 9 c;h13 9 9 d;h10 9 9 e;m1;");
+            x.light(4);
+            x.wind(5);
+            return x;
+        };
+        // behind 0 none can follow: 1 is hidden by it, 2 by 4's smoke, 3 is its neighbour; then 0's tried rocket is none
+        order("the first that was tried hides no other", smoky, 15, 1, 3, 2, 0);
     }
 
     private static void orderByWindAndFogOfNow() {
