@@ -25,11 +25,14 @@ public final class LanguageTest {
         "@SuppressWarnings",
     };
 
+    private static final String METHOD = "( {4}| {8})(?!(for|if|while|switch|do)\\b|\\})\\S.*\\) \\{";
+
     public static void main(String[] args) throws IOException {
         face();
         nested();
         source();
         methodLengths();
+        madeAtFirstAlone();
         Check.end();
     }
 
@@ -58,6 +61,7 @@ public final class LanguageTest {
         }
         yes("the constants are the face's", fields.equals(new TreeSet<>(Arrays.asList("NONE", "UNKNOWN", "OUTSIDE", "NOT", "FULL"))));
         Constructor<?>[] constructors = FireworkDeeds.class.getDeclaredConstructors();
+        yes("some twenty fields", fieldsBesideConstants(FireworkDeeds.class) <= 20);
         yes("one constructor", constructors.length == 1 && constructors[0].getParameterCount() == 0);
         yes("a public final class", Modifier.isFinal(FireworkDeeds.class.getModifiers()) && Modifier.isPublic(FireworkDeeds.class.getModifiers()));
     }
@@ -67,11 +71,16 @@ public final class LanguageTest {
         yes("twelve classes at most", all.length + 1 <= 12);
         for (Class<?> each : all) {
             yes("static: " + each, Modifier.isStatic(each.getModifiers()) && !Modifier.isPublic(each.getModifiers()));
-            yes("some twenty fields: " + each, each.getDeclaredFields().length <= 20);
+            yes("some twenty fields: " + each, fieldsBesideConstants(each) <= 20);
             for (Method method : each.getDeclaredMethods()) {
                 yes("seven parameters: " + method, method.getParameterCount() <= 7);
+                yes("a name of its own: " + method, Arrays.stream(FACE).noneMatch(face -> face.startsWith(method.getName() + "(")));
             }
         }
+    }
+
+    private static long fieldsBesideConstants(Class<?> type) {
+        return Arrays.stream(type.getDeclaredFields()).filter(field -> !Modifier.isStatic(field.getModifiers())).count();
     }
 
     private static void source() throws IOException {
@@ -87,16 +96,31 @@ public final class LanguageTest {
     }
 
     private static void methodLengths() throws IOException {
-        int begun = -1;
+        int begun = 0;
         int line = 0;
+        String end = "";
         for (String text : code().split("\n", -1)) {
             line++;
-            if (text.matches("( {4}| {8})\\S.*\\) \\{")) {
+            if (text.matches(METHOD)) {
                 begun = line;
-            } else if (text.matches("( {4}| {8})\\}") && begun > 0) {
+                end = text.substring(0, text.length() - text.stripLeading().length()) + "}";
+            } else if (text.equals(end)) {
                 yes("some sixty lines from line " + begun, line - begun < 60);
-                begun = -1;
+                end = "";
             }
+        }
+        yes("methods were found", begun > 0);
+    }
+
+    /** All calls share one room, so that only constructors and fields make anything. */
+    private static void madeAtFirstAlone() throws IOException {
+        boolean inConstructor = false;
+        for (String text : code().split("\n", -1)) {
+            if (text.matches(METHOD)) {
+                inConstructor = text.matches(" {4}public FireworkDeeds\\(\\) \\{| {8}[A-Z]\\w*\\(.*\\) \\{");
+            }
+            boolean field = text.matches(" {8}(private )?(final )?[\\w\\[\\]]+ \\w+ = new .*;");
+            yes("made at first alone: " + text, !text.matches(".*\\bnew\\b.*") || inConstructor || field);
         }
     }
 

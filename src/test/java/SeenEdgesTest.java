@@ -23,6 +23,7 @@ public final class SeenEdgesTest {
         tearLeavesTheNight();
         judgeOfNothing();
         judgeTheFirst();
+        judgeTheTwoThatAreTold();
         seedBounds();
         seedWrapsRound();
         drawsWithinTheirBounds();
@@ -215,6 +216,23 @@ public final class SeenEdgesTest {
         conditional.light(2);
         conditional.write(0, 2, true);
         Check.due("a conditional one holds", conditional.judge(), Check.NONE);
+    }
+
+    private static void judgeTheTwoThatAreTold() {
+        for (int a = 0; a < 4; a++) {
+            for (int b = 0; b < 4; b++) {
+                if (a != b) {
+                    FireworkDeeds x = Check.bay("b9 0 5;h0 9 9 a;h1 9 9 b;h2 9 9 c;h3 9 9 d;");
+                    x.light(3);
+                    x.light(2);
+                    boolean holds = a + b == 5;
+                    x.write(a, b, holds);
+                    Check.due("of 2 and 3 alone: " + a + " " + b, x.judge(), Check.NONE);
+                    x.write(a, b, !holds);
+                    Check.due("of 2 and 3 alone, told wrong: " + a + " " + b, x.judge(), 1);
+                }
+            }
+        }
     }
 
     private static void seedBounds() {

@@ -351,7 +351,10 @@ public final class TextEdgesTest {
     private static void firstLetterThatHasAFault() {
         Check.fault("b9 0 5;h4 1 1 a;h4 0 1 a;", 4, 17);
         Check.fault("b9 0 5;h4 1 1 a;h5 0 1 a;", 2, 19);
-        Check.fault("b9 0 5;h4 1 1 a;h5 1 1 a?", 4, 23);
+        for (String behind : new String[] {"?", "f", "h", "z", "A", "1", " a", " f", ""}) {
+            Check.fault("b9 0 5;h4 1 1 a;h5 1 1 a" + behind, 4, 23);
+            Check.fault("b9 0 5;h4 1 1 abcde;h5 1 1 abcde" + behind, 4, 27);
+        }
         Check.fault("b9 0 5;m1;m10;", 3, 10);
         Check.fault("b9 0 5;m10;m1;", 2, 8);
         Check.fault("b31 21 11", 2, 1);

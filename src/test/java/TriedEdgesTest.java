@@ -377,6 +377,9 @@ public final class TriedEdgesTest {
     private static void partnerOfLikeOnes() {
         partners("0 asks the least of two as near", Check.bay("b9 0 5;h4 1 1 a;h6 1 1 b;h0 1 0 c;h2 1 1 d;"), 1, 0, -1, -1);
         partners("1 keeps the least of two as near", Check.bay("b9 0 5;h6 1 1 a;h4 1 1 b;h2 1 1 c;"), 1, 0, -1);
+        // 0 asks 3 first, which prefers 2; by then 1, as near to 0 as to 4, has 4 already
+        FireworkDeeds late = Check.bay("b30 0 5;h5 1 1 a;h10 1 1 b;h2 1 1 c;h3 1 1 d;h15 1 1 e;");
+        partners("1 takes the least of two as near, though it asks later", late, 1, 0, 3, 2, -1);
         partners("a cell nearer wins", Check.bay("b9 0 5;h7 1 1 a;h4 1 1 b;h2 1 1 c;"), -1, 2, 1);
         partners("a cell nearer is asked", Check.bay("b9 0 5;h4 1 1 a;h7 1 1 b;h0 1 0 c;h2 1 1 d;"), 3, -1, -1, 0);
     }
